@@ -120,7 +120,7 @@ public final class StepDebugger {
 
     public int stepOver() {
         // A CALL that can't be carried out faults before any aim counts, so it needs no case here.
-        if (isAt(CALL)) {
+        if (isCallNext()) {
             return run(AIM_RETURNED, place + 1);
         }
         return run(AIM_ONE, 0);
@@ -193,10 +193,11 @@ public final class StepDebugger {
         if (!isInProgram(place)) {
             return LOST;
         }
-        if (isAt(CALL) && returnCount >= STACK_ROOM) {
+        int op = ops[place];
+        if (op == CALL && returnCount >= STACK_ROOM) {
             return FAULTED;
         }
-        if (isAt(BACK) && returnCount <= 0) {
+        if (op == BACK && returnCount <= 0) {
             return FAULTED;
         }
         return GO_ON;
@@ -294,8 +295,8 @@ public final class StepDebugger {
         return registers[register] & (CELLS - 1);
     }
 
-    private boolean isAt(int op) {
-        return isInProgram(place) && ops[place] == op;
+    private boolean isCallNext() {
+        return isInProgram(place) && ops[place] == CALL;
     }
 
     private boolean isInProgram(int p) {
@@ -311,6 +312,6 @@ public final class StepDebugger {
     }
 
     private boolean hasBreak(int p) {
-        return (breakBits >> p & 1) != 0;
+        return ((breakBits >> p) & 1) != 0;
     }
 }
